@@ -218,7 +218,7 @@ public final class CatCourt {
         }
         thinkOf(now);
         scales.weigh(set, accused);
-        return scales.rightBy(set, now.ofAccused(accused, GUILT), now.ofBench(NEEDED));
+        return rightNow(set, accused);
     }
 
     public int mean(int set, int accused, int guilty) {
@@ -1450,19 +1450,15 @@ public final class CatCourt {
 
         private static int join(int sign, int left, int right) {
             switch (sign) {
-                case '+': return within((long) left + right);
-                case '-': return within((long) left - right);
-                case '*': return within((long) left * right);
                 case '/': return right == 0 ? 0 : left / right;
                 case '=': return left == right ? 1 : 0;
                 case '<': return left < right ? 1 : 0;
                 case '>': return left > right ? 1 : 0;
                 case '&': return left & right;
-                default: return left | right;
+                case '|': return left | right;
+                default: break;
             }
-        }
-
-        private static int within(long number) {
+            long number = sign == '+' ? (long) left + right : sign == '-' ? (long) left - right : (long) left * right;
             return number > FARTHEST ? FARTHEST : number < -FARTHEST ? -FARTHEST : (int) number;
         }
     }

@@ -963,6 +963,7 @@ public final class ModelTest {
 
     public static void main(String[] args) {
         int runs = args.length > 0 ? Integer.parseInt(args[0]) : 250;
+        if (args.length > 1) R.setSeed(Long.parseLong(args[1]));
         texts();
         for (int i = 0; i < runs; i++) run();
         System.out.println(wrong == 0 ? "all answers are as the model's" : wrong + " answers are not as the model's");

@@ -128,6 +128,15 @@ public final class PromiseTest {
         none("two bytes at 239", x.feed(1, 0, 0, 0, 1));
         due("count(3) stays 239", x.count(3), 239);
         due("one byte at 239", x.feed(0, 0, 1, 0, 0), 240);
+        int[][] each = {{-1, 0, 0, 0, 0}, {0, -1, 0, 0, 0}, {0, 0, -1, 0, 0}, {0, 0, 0, -1, 0}, {0, 0, 0, 0, -1}};
+        x.end(237);
+        for (int[] v : each) {
+            none("four bytes at 237", x.feed(v[0], v[1], v[2], v[3], v[4]));
+        }
+        x.end(0);
+        for (int i = 0; i < 5; i++) {
+            due("four bytes", x.feed(each[i][0], each[i][1], each[i][2], each[i][3], each[i][4]), 4 * i + 4);
+        }
     }
 
     // 3: end
@@ -285,6 +294,35 @@ public final class PromiseTest {
         due("mood by none", x.mood(0, 0, 0, 0), 1);
     }
 
+    // a law that is chosen, or what a trial varied, is seen by all that comes then
+    private static void afterOthers() {
+        CatCourt x = court("bh6m5;cp1t0u0l1;ak0;ak0");
+        tellLaw(x, "y:d=0?1;y:d=3?m");
+        tellLaw(x, "y:d=0?1");
+        for (int i = 0; i < 12; i++) {
+            x.law(1);
+            due("held by law 1", x.held(1, 0, 0), ALL);
+            x.law(0);
+            vary(x);
+            int got = i == 0 ? x.held(1, 0, 0) : i == 1 ? x.right(1, 0) : i == 2 ? x.mean(1, 0, 0)
+                : i == 3 ? x.quiet(1, 0, 0) : i == 4 ? x.ask(1, 0, 1) : i == 5 ? x.bar(1, 0, 1)
+                : i == 6 ? x.brothers(1, 0, 1) : i == 7 ? x.free(1) : i == 8 ? x.odds(0, 0, 0, 0)
+                : i == 9 ? x.noisy(0, 1) : i == 10 ? x.mood(0, 0, 3, 0) : x.alike(0, 0, 0, 1);
+            int[] want = {166666666, 83333333 + 416666667, 499, 833333334, 500000000, 500000000, 722222222, 694444446,
+                166666666, 0, 5, -1};
+            due("by law 0, call " + i, got, want[i]);
+        }
+    }
+
+    private static void vary(CatCourt x) {
+        x.moonlit(1, 0, 0);
+        x.appeals(1, 0, 3);
+        x.mercy(1, 0, 0, 0);
+        x.rests(0, -1);
+        x.drank(-1);
+        x.fits(0);
+    }
+
     // 10: mood
     private static void moods() {
         CatCourt x = court("bh9;cp2t3u4l5f6;ak1d1;a");
@@ -311,7 +349,7 @@ public final class PromiseTest {
             {"y:2+3*4", 14}, {"y:[2+3]*4", 20}, {"y:9999*9999-9999*9999+5", 5},
             {"y:[9999*9999+9]/[9999*9]", 11}, {"y:9999*9999/9999-90", 10},
             {"y:[0-9999*9999-7]+9999*100+103", 3}, {"y:0=0&1=0|0=0?6", 6}, {"y:0=0|1=0&1=0?6", 6},
-            {"y:(0=0|0=0)&1=0?6", 0}, {"y:!1=0?6", 6}, {"y:!1=0&1=0?6", 0}, {"y:!(1=0&1=0)?6", 6}, {"y:!!1=1?6", 6},
+            {"y:(0=0|0=0)&1=0?6", 0}, {"y:!1=0?6", 6}, {"y:!1=1?6", 0}, {"y:!1=0&1=0?6", 0}, {"y:!(1=0&1=0)?6", 6}, {"y:!!1=1?6", 6},
             {"y:2>1?6", 6}, {"y:1>1?6", 0}, {"y:1<1?6", 0}, {"y:1>2?1;y:1>3?2;y:2>1?3;y:4", 3}, {"y:0012+00", 12}};
         for (Object[] l : laws) {
             due("mood by " + l[0], under((String) l[0], where).mood(0, 0, 2, 1), (Integer) l[1]);
@@ -481,6 +519,17 @@ public final class PromiseTest {
         w.hear(1, 0, 1);
         w.hear(1, 0, 2);
         due("99 cases at most", w.cat(0, 5), 99);
+        // the seed alone decides: some seeds hold, others do not, and each does the same again
+        CatCourt s = court("bn3;cp1t1u1l1;ag50");
+        int held = 0;
+        for (int seed = -20; seed < 20; seed++) {
+            int one = s.hear(1, 0, seed * 1000003L);
+            s.undo();
+            due("the same seed again", s.hear(1, 0, seed * 1000003L), one);
+            s.undo();
+            held += one;
+        }
+        due("some hold, some do not", held > 0 && held < 40, true);
         // by c, the odds are as the case began
         CatCourt v = under("y:c=0&d=0?1;y:c>0&d=1?1", "bp1t0u0l0n2;c;c;ag50");
         due("all purr in the first case", v.hear(3, 0, 77), 1);
@@ -626,6 +675,9 @@ public final class PromiseTest {
         none("ask(1, 1, 0)", x.ask(1, 1, 0));
         none("ask(1, 0, 2)", x.ask(1, 0, 2));
         none("ask(1, 0, -1)", x.ask(1, 0, -1));
+        // 3, 2, 1 and 0 points: below four are 0 with 3 (9) and 1 with 2 (6), and others above them as bits
+        CatCourt y = court("bh0n4;cp9t0u0l0;cp0t9u0l0;cp0t0u9l0;cp0t0u0l9;ag0");
+        due("ask: the least as bits, not by the lowest cat", y.ask(2, 0, 0), 6);
         x.retire(1, true);
         due("ask(1, 0, 0) without one", x.ask(1, 0, 0), 4);
         none("ask(4, 0, 0)", x.ask(4, 0, 0));
@@ -647,6 +699,11 @@ public final class PromiseTest {
         // exactly three to one counts
         due("exactly three", under("y:d=0?1+2*g;y:d=3?9-2*g", "bn3;c;a").three(0), 1);
         none("a little less", under("y:d=0?10+19*g;y:d=3?90-19*g", "bn3;c;a").three(0));
+        // if guilty 1, 2, 2 and 3 points, none otherwise: four by 0 with 3 (9), 1 with 2 (6), and others
+        String law = "y:g=1&w=9?1;y:g=0&d=3?1";
+        due("of several the least as bits", under(law, "bn4;cu9;ct9;ct9;cp9;a").three(0), 6);
+        due("all eight", under(law, "bn24;" + times(8, "cp9", ";") + ";a").three(0), 255);
+        due("seven of eight", under(law, "bn21;" + times(8, "cp9", ";") + ";a").three(0), 127);
         x.retire(0, true);
         x.retire(2, true);
         none("three, all retired", x.three(0));
@@ -691,6 +748,11 @@ public final class PromiseTest {
         due("mercy(5, 0, 29, 1): the lowest cat is the highest digit", y.mercy(5, 0, 29, 1), 30);
         // nine fish: more than nine then
         due("beyond nine", under("y:d=0&f<11?1;y:d=3&f>10?1", "bn1l0p1;cf9;a").mercy(1, 0, 0, 0), 2);
+        String full = "y:d=0&f<3?1;y:d=3&f>2?1";
+        due("three cats, all they can have", under(full, "bn1;c;c;c;a").mercy(7, 0, 0, 1), 333);
+        due("four cats, all they can have", under(full, "bn1;c;c;c;c;a").mercy(15, 0, 0, 1), 3333);
+        due("twelve fish", under(full, "bn1;c;c;c;c;a").mercy(15, 0, 0, 0), 12);
+        due("some of eight", under(full, "bn1;c;cf1;c;cf2;c;cf3;c;cf9;a").mercy(170, 0, 0, 1), 2100);
         due("its fish are as they were", y.cat(0, 4), 0);
         none("mercy of five cats", x.mercy(31, 0, 100, 0));
         due("mercy of four cats", x.mercy(30, 0, 100, 0), 0);
@@ -951,6 +1013,10 @@ public final class PromiseTest {
         none("drank(0)", x.drank(0));
         promise = 40;
         none("sure()", x.sure());
+        CatCourt z = under("y:d=0&k=1?1;y:d=1&k=0?1", "c;a;a");
+        z.see(0, 0, 0);
+        z.see(0, 1, 1);
+        due("sure(), with milk or without", z.sure(), 1);
         // each deed can be, but by no one guilt
         CatCourt y = under("y:d=0?g;y:d=1?1-g", "c;a");
         y.see(0, 0, 0);
@@ -1058,7 +1124,7 @@ public final class PromiseTest {
             case 4: faults(); break;
             case 5: texts(); break;
             case 6: told(); break;
-            case 9: lawThatHolds(); break;
+            case 9: lawThatHolds(); afterOthers(); break;
             case 10: moods(); break;
             case 11: oddsOfDeeds(); break;
             case 12: holding(); break;
