@@ -70,6 +70,9 @@ public final class EdgeTest {
             .refused("end 1");
         story(3, "The TAPE has its first n bytes alone").feed("c;axyz").due("end 3", 1).due("fault 0", -1).feed(";b")
             .due("count 3", 5).due("fault 0", -1).due("text 0", 1);
+        story(3, "what stood behind them is gone").feed("c;      ").due("fault 0", 8).due("end 2", 1).due("fault 0", 2)
+            .tape("bn99").due("end 3", 1).due("fault 0", 3).tape("y:1   ").due("end 2", 1).due("fault 1", 2)
+            .tape("y:1234").due("end 5", 1).due("fault 1", -1).tape("c;a;").due("end 3", 1).due("fault 0", -1);
     }
 
     private static void faults() {
@@ -168,6 +171,10 @@ public final class EdgeTest {
             .due("bench 6", 0).due("nights 3", 3).due("cat 0 4", 4).due("cat 1 4", 0).due("nights 4", 7)
             .due("cat 0 4", 0).due("nights 28", 7).due("nights 27", 6).due("nights 22", 0).due("nights 28", 0)
             .due("count 8", 9);
+        court(15, "FISH of all, of nothing else", "cf9;cf9;cf9;cf9;cf9;cf9;cf9;cf9;ag9k1d1;ag9k1d1;ag9k1d1;ag9k1d1")
+            .due("nights 3", 3).row("cat 7", 1, 1, 1, 1, 6, 0, 0).row("cat 0", 1, 1, 1, 1, 6, 0, 0)
+            .row("accused 0", 9, 1, 1).row("accused 1", 9, 1, 1).row("accused 3", 9, 1, 1).due("nights 9", 12)
+            .due("cat 7 4", 0).row("accused 0", 9, 1, 1).row("accused 1", 9, 1, 1);
         court(15, "one less and one more than the FISH", "bm27;cf9;a").due("nights 8", 7).due("cat 0 4", 1)
             .due("nights 2", 9).due("cat 0 4", 0).due("undo", 1).due("cat 0 4", 1).due("bench 6", 7);
         court(15, "the most", "bm27;cf9;a").due("nights 28", 27).due("cat 0 4", 0);
@@ -217,6 +224,12 @@ public final class EdgeTest {
         under(22, "the most RIGHT, by the highest", TRUTH, "bn3;c;c;c;c;c;c;c;cc9;a").due("ask 1 0 0", 128)
             .due("ask 1 0 1", ALL).due("ask 2 0 0", 129).due("ask 2 0 1", 750000000).due("retire 7 true", 1)
             .due("ask 1 0 0", 1).due("ask 1 0 1", 500000000);
+        // if GUILTY 1, 2, 2 and 3 POINTS, none otherwise: four of two by 0 and 3 (9), by 1 and 2 (6), and others
+        String points = "y:g=1&w=9?1;y:g=0&d=3?1";
+        under(22, "the least as bits, not the one with the lowest CAT", points, "bn4;cu9;ct9;ct9;cp9;a")
+            .due("ask 2 0 0", 6).due("ask 2 0 1", ALL);
+        under(23, "the least as bits, not the one with the lowest CAT", points, "bn4;cu9;ct9;ct9;cp9;a")
+            .due("three 0", 6);
         under(22, "two that know", TRUTH, "bn6;c;c;cc9;c;cc9;a").due("ask 2 0 0", 20).due("ask 2 0 1", ALL)
             .due("ask 1 0 1", 500000000).due("ask 1 0 0", 1);
     }
@@ -237,6 +250,12 @@ public final class EdgeTest {
         under(23, "two of them", TRUTH, "bn6;c;cc9;cc9;a").due("three 0", 3);
         under(23, "two of them, the lower ones never PURR", "y:w=9&d=0?g;y:d=3?1", "bn6;c;c;cp9;c;cp9;a").due("three 0", 20);
         under(23, "of several the least", TRUTH, "bn3;c;cc9;cc9;a").due("three 0", 2);
+        under(23, "the highest of eight alone", TRUTH, "bn3;c;c;c;c;c;c;c;cc9;a").due("three 0", 128);
+        // it PURRS, if GUILTY, by 1 of 100 or of 10: of all parts 10, then 1
+        under(23, "above 0: one part", "y:d=0?g;y:d=3?c", "bn15;cc99;cc99;cc99;cc99;cc9;a").due("held 31 0 1", 1)
+            .due("held 31 0 0", 0).due("three 0", 31);
+        under(23, "above 0: none, as it is cut", "y:d=0?g;y:d=3?c", "bn15;cc99;cc99;cc99;cc99;cc10;a")
+            .due("held 31 0 1", 0).refused("three 0");
         under(23, "all eight", TRUTH, "bn24;" + EIGHT.replace("c", "cc9") + ";a").due("three 0", 255);
         under(23, "one POINT too much", TRUTH, "bn25;" + EIGHT.replace("c", "cc9") + ";a").refused("three 0");
         court(23, "NONE: no such ACCUSED", "bh0;cp0t1u0l0;a;a").due("three 1", 1).refused("three 2", "three -1")
@@ -263,6 +282,11 @@ public final class EdgeTest {
             .due("mercy 1 0 50 0", 0).due("mercy 1 0 49 0", 1).due("mercy 1 0 34 0", 1).due("mercy 1 0 33 0", 2)
             .due("mercy 1 0 25 0", 2).due("mercy 1 0 24 0", 3).due("mercy 1 0 20 0", 3).refused("mercy 1 0 19 0",
             "mercy 1 0 19 1", "mercy 1 0 0 0").due("mercy 1 0 100 0", 0).due("mercy 1 0 100 1", 0);
+        under(25, "a little more than 99 by 100", "y:d<2?99;y:d=2?1", "bp3t3u0n3;c;a").due("held 1 0 0", 994974874)
+            .refused("mercy 1 0 99 0").due("mercy 1 0 100 0", 0);
+        under(25, "a little more than 1 by 100", "y:d=0?1;y:d=3?98", "bn3;c;a").due("held 1 0 0", 10101010)
+            .refused("mercy 1 0 1 0").due("mercy 1 0 2 0", 0);
+        under(25, "1 by 100", "y:d=0?1;y:d=3?99", "bn3;c;a").due("mercy 1 0 1 0", 0).refused("mercy 1 0 0 0");
         under(25, "b 0 .. 100", SURE, "bn3;cp9;cl9;a").due("mercy 1 0 100 0", 0).refused("mercy 1 0 99 0",
             "mercy 1 0 101 0", "mercy 2 0 -1 0").due("mercy 2 0 0 0", 0).due("mercy 2 0 0 1", 0);
         String more = "y:d=0&f<12?1;y:d=3&f>11?1";
@@ -310,6 +334,8 @@ public final class EdgeTest {
         under(27, "always and never", SURE, "cp9;cp9;ct9;a;a").due("alike 0 0 1 1", ALL).due("alike 0 0 2 1", 0)
             .due("alike 1 1 0 0", ALL);
         under(27, "for each DEED cut, together", "y:d<3?1", "c;c;a;a").due("alike 0 0 1 1", 111111110 * 2 + 111111111);
+        under(27, "g is 1 and no more", "y:d=0&g=1?1;y:d=1&g>1?1;y:d=2&g=0?1", "c;c;a;a").due("alike 0 0 1 1", ALL);
+        under(27, "g is 1 of both", "y:d=0&g=1?1;y:d=1&g=0?1;y:d=2&g>1?1", "c;c;a;a").due("alike 0 0 1 1", ALL);
         under(27, "both GUILTY", "y:d=0?g;y:d=1?[1-g]*[w-1];y:d=2?[1-g]*[2-w]", "ct1;ct2;a;a").due("alike 0 0 1 1", ALL);
     }
 
@@ -343,6 +369,8 @@ public final class EdgeTest {
             .due("surely 1 0", 13).due("surely 2 0", 11).due("surely 3 0", 7).due("surely 4 0", 0);
         s.refused("surely 5 0", "surely -1 0", "surely 0 1", "surely 0 -1").due("retire 0 true", 1).due("surely 0 0", 14);
         under(29, "GUILTY or not", "y:d=0?g;y:d=1?1-g", "c;a").due("surely 0 0", 12);
+        under(29, "not even if GUILTY", "y:d=0?w*g;y:d=3?1", "cp1;cp2;a").due("surely 0 0", 6).due("surely 1 0", 6);
+        under(29, "not even if not", "y:d=0?w*[1-g];y:d=3?1", "cp1;a").due("surely 0 0", 6);
         under(29, "all MOODS 0", "y:0", "c;a").due("surely 0 0", 7);
         Story noisy = under(30, "furthest apart (of several the lowest); by how much", "y:d=0?w*g;y:d=3?1",
             "cp1;cp3;cp3;a").due("noisy 0 0", 1).due("noisy 0 1", 750000000);
@@ -358,6 +386,7 @@ public final class EdgeTest {
         under(31, "together, by 10 to the 6, cut", "y:d<3?1", "bp1t2u3l9;c;a").due("mean 1 0 0", 2000)
             .due("mean 1 0 1", 2000).refused("mean 1 0 2", "mean 1 0 -1", "mean 1 1 0", "mean 1 -1 0");
         under(31, "cut", "y:d<3?1", "bp0t0u1l9;c;a").due("mean 1 0 0", 333);
+        under(31, "cut, one part less than a million", "y:d<3?1", "bp3t0u0l9;c;a").due("mean 1 0 0", 999);
         court(31, "no POINTS", "bp0t0u0l0;c;a").due("mean 1 0 0", 0);
         court(31, "all POINTS", "bp9t9u9l9;" + EIGHT + ";a").due("mean 255 0 0", 72000).due("mean 1 0 0", 9000);
         for (int mask = 1; mask < 16; mask++) {
@@ -365,6 +394,8 @@ public final class EdgeTest {
             under(32, "the greatest MOOD (of several the first)", "y:w", cat + ";a")
                 .due("likely 0 0 0", Integer.numberOfTrailingZeros(mask));
         }
+        under(32, "the last DEED", "y:d", "c;a").due("likely 0 0 0", 3).due("likely 0 0 1", 3).due("see 0 0 3", 1)
+            .due("fits 1", 1);
         under(32, "all MOODS 0", "y:0", "c;a").due("likely 0 0 0", 0).due("likely 0 0 1", 0);
         under(32, "with a DOG", "y:d=0?99;y:d=3?50", "c;a;ad1").due("likely 0 0 0", 0).due("likely 0 1 0", 3);
         under(32, "with a DOG, as much", "y:d=0?98;y:d=3?49", "c;ad1").due("likely 0 0 0", 0)
@@ -436,6 +467,15 @@ public final class EdgeTest {
             small.due("see 0 0 0", i).due("guess 0", 500000);
         }
         small.due("see 0 0 0", 4).refused("guess 0").due("drank -1", 2);
+        String one = "cc99;cc99;cc99;cc99;cc9;ag1;ag99";
+        Story guilty = under(38, "both 0, but not one part if GUILTY", "y:d=0?g;y:d=3?c", one);
+        Story not = under(38, "both 0, but not one part if not", "y:d=0?1-g;y:d=3?c", one);
+        for (int cat = 0; cat < 5; cat++) {
+            guilty.due("see " + cat + " 0 0", cat + 1).due("guess 0", 1000000);
+            not.due("see " + cat + " 1 0", cat + 1).due("guess 1", 0);
+        }
+        guilty.due("see 4 0 0", 6).refused("guess 0");
+        not.due("see 4 1 0", 6).refused("guess 1");
         under(38, "of 10 to the 6, cut", "y:d=0?1+g;y:d=3?1", "c;ag50").due("see 0 0 0", 1)
             .due("guess 0", 666666666L * 1000000 / (666666666 + 500000000));
         under(38, "what was SEEN of another does not count", tells, "c;a;a").due("see 0 1 0", 1).due("guess 0", 500000);
@@ -457,6 +497,14 @@ public final class EdgeTest {
         under(39, "one ACCUSED", milk, "c;a").due("drank -1", 2).due("drank 1", 1).refused("drank 2");
         under(39, "either GUILTY, or not, all SEEN of it", "y:d=0?g;y:d=1?1-g", "c;a;a").due("see 0 0 0", 1)
             .due("see 0 1 1", 2).due("drank -1", 4).due("see 0 0 1", 3).due("drank -1", 0).refused("sure", "drank 0");
+        under(39, "as the COURT is now", "y:d=0?f*k;y:d=1?1", "c;a").due("see 0 0 0", 1).due("drank -1", 0).refused("sure")
+            .due("fish 0", 1).due("drank -1", 1).due("drank 0", 1).due("sure", 1).due("nights 1", 1).due("drank -1", 0)
+            .refused("sure").due("undo", 1).due("sure", 1);
+        under(39, "k is 1 and no more", "y:d=0&k=1?1;y:d=1&k=0?1;y:d=2&k>1?1", "c;a;a").due("see 0 0 0", 1)
+            .due("see 0 1 1", 2).due("drank -1", 1).due("drank 0", 1).due("sure", 1).due("see 0 0 2", 3).refused("sure");
+        under(39, "g is 1 and no more", "y:d=0&g=1?1;y:d=1&g=0?1;y:d=2&g>1?1", "c;a;a").due("see 0 0 0", 1)
+            .due("see 0 1 1", 2).due("drank -1", 4).due("fits 1", 2).due("surely 0 0", 12).due("see 0 0 2", 3)
+            .due("drank -1", 0).due("fits 1", 2);
         story(39, "no COURT").refused("drank -1", "drank 0", "sure");
         under(40, "who is in all", milk, "c;a;a;a").due("see 0 2 0", 1).due("see 0 0 1", 2).due("sure", 4)
             .due("drank -1", 2).due("drank 0", 4).due("drank 1", 6);
@@ -512,6 +560,8 @@ public final class EdgeTest {
 
     private static void images() {
         story(45, "NONE: no COURT").refused("image", "back").law("y:1").refused("image", "back");
+        court(46, "refused, ACTS stay", "c;a").due("fish 0", 1).times(1, "hear 1 0 1").times(1, "see 0 0 0").refused("back")
+            .due("undo", 1).due("undo", 0).refused("undo", "back");
         court(46, "NONE: no IMAGE of this COURT", "c;a").refused("back").due("image", 0).due("back", 0).due("back", 0)
             .court("c;a").refused("back");
         String[] acts = {"fish 0", "nights 1", "heat 9", "milk 0 true", "retire 0 true", "hear 3 0 1"};

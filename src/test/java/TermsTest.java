@@ -259,6 +259,9 @@ public final class TermsTest {
         worth("the SUM of the first CLAUSE whose CONDITION holds", "y:d=2?5;y:d=2?6", 5, "y:d=1?5;y:d=2?6", 6,
             "y:d=1?5;y:7;y:d=2?6", 7, "y:7;y:8", 7, "y:d=2?0;y:8", 0, "y:d=1?4;y:d=3?5;y:d<2?6;y:d>2?7;y:9", 9);
         worth("0 without", "y:d=1?5", 0, "y:d=1?5;y:d=3?6", 0, "y:!d=2?9", 0);
+        Story.of("0 without, whatever was told ahead of it", "c;a").law("y:d=7?1;y:d=8?2+3*4-5;y:9").law("y:6")
+            .holding("y:d=9?1").row("mood 0 0 0", 0, 0).due("law 0", 1).due("mood 0 0 0 0", 9).due("law 1", 1)
+            .due("mood 0 0 0 0", 6);
         worth("= < >", "y:2=2?1", 1, "y:2=3?1", 0, "y:3=2?1", 0, "y:2<2?1", 0, "y:2<3?1", 1, "y:3<2?1", 0, "y:2>2?1", 0,
             "y:3>2?1", 1, "y:2>3?1", 0, "y:0-1<0?1", 1, "y:0-1>0?1", 0);
         worth("| between TRUTHS, & between UNITS", "y:0=0|0=1?1", 1, "y:0=1|0=0?1", 1, "y:0=1|0=1?1", 0, "y:0=0|0=0?1", 1,
@@ -347,6 +350,10 @@ public final class TermsTest {
         Story.under(about, "y:d<3?1", "bp1t0u0l9n2;c;c;a").due("held 1 0 0", 0).due("held 3 0 0", 111111110);
         Story.under(about, "y:d<3?1", "bp0t0u1l9n2;c;c;a").due("held 3 0 0", 111111112);
         Story.under(about, "y:0", "bp9t9u9l1n2;c;c;a").due("held 3 0 0", ALL).due("held 1 0 1", 0);
+        // five PURR by 1 of 100 or of 10, one part in all: the sixth TREADS by none of it and LEAVES by what is over
+        Story.under("what is over of one part", "y:d=0&w=9?1;y:d=1&w=9?1;y:d=3?c",
+            "bt0n15;cp9c99;cp9c99;cp9c99;cp9c99;cp9c9;ct9c1;a").due("held 31 0 0", 1).due("held 63 0 0", 1)
+            .due("held 32 0 0", 0).due("odds 5 0 1 0", 500000000);
         for (int needed = 0; needed < 100; needed += needed < 9 || needed > 90 ? 1 : 9) {
             // cat 0 surely brings 3 POINTS, cat 1 surely brings 4
             Story.under("POINTS together are NEEDED or more", "y:w=9?1", "bp3t4n" + needed + ";cp9;ct9;a")
@@ -428,6 +435,29 @@ public final class TermsTest {
             }
         }
         Story.of("some seeds have such odds").due("count 3", tried >= 5 ? 0 : 1);
+    }
+
+    private static long seedOf(long second) {
+        for (long seed = 0; seed < 100000; seed++) {
+            if (numbersFrom(seed, 2)[1] % 1000 == second) {
+                return seed;
+            }
+        }
+        return -1;
+    }
+
+    private static void together() {
+        // PURRS by 166666666, TREADS by 333333333: 499 of 1000 with both; then TURNS
+        String about = "below ODDS by 1,000,000, cut, of that and the next together";
+        Story.under(about, "y:d<3?d+1", "c;ag50").times(1, "hear 1 0 " + seedOf(498)).due("log 0 2", 1)
+            .times(1, "hear 1 0 " + seedOf(499)).due("log 0 2", 2).times(1, "hear 1 0 " + seedOf(165)).due("log 0 2", 0)
+            .times(1, "hear 1 0 " + seedOf(166)).due("log 0 2", 1).times(1, "hear 1 0 " + seedOf(999)).due("log 0 2", 2)
+            .times(1, "hear 1 0 " + seedOf(0)).due("log 0 2", 0);
+        Story.under("else it LEAVES", "y:d=0?1;y:d=3?1", "c;ag50").times(1, "hear 1 0 " + seedOf(499)).due("log 0 2", 0)
+            .times(1, "hear 1 0 " + seedOf(500)).due("log 0 2", 3).times(1, "hear 1 0 " + seedOf(999)).due("log 0 2", 3)
+            .times(1, "hear 1 0 " + seedOf(0)).due("log 0 2", 0);
+        Story.under("all MOODS 0: it LEAVES", "y:0", "c;ag50").times(1, "hear 1 0 " + seedOf(0)).due("log 0 2", 3)
+            .times(1, "hear 1 0 " + seedOf(999)).due("log 0 2", 3);
     }
 
     private static void severalCats() {
@@ -537,6 +567,7 @@ public final class TermsTest {
         helds();
         guilt();
         deeds();
+        together();
         severalCats();
         fullLog();
         fullCases();
