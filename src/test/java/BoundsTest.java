@@ -209,8 +209,8 @@ public final class BoundsTest {
         for (int i = 0; i < counts.length; i++) {
             s.due("count " + i, counts[i]);
         }
-        s.refused("text 0", "text 1", "text 2", "fish 0", "fish 1", "see 0 0 0", "feed 1 0 0 0 0", "feed 0 0 0 0 -1", "heat 9", "milk 1 true",
-            "milk 0 false", "retire 7 true", "retire 0 false", "log 60 0", "law 4", "end 241", "hear 255 0 1",
+        s.refused("text 0", "text 1", "text 2", "fish 0", "fish 1", "see 0 0 0", "feed 1 0 0 0 0", "feed 0 0 0 0 -1",
+            "heat 9", "milk 1 true", "milk 0 false", "retire 7 true", "retire 0 false", "log 60 0", "law 4", "end 241", "hear 255 0 1",
             "hear 128 0 1", "ask 8 0 0");
     }
 
